@@ -1531,8 +1531,8 @@ public final class OneStepMore {
 
     /** What is in mind: all that draws can be, exactly, as whole numbers over powers of ten. */
     private static final class Mind {
-        int bestFrom;
         private static final int WIDTH = 32;
+        int bestFrom;
         private final State s;
         private final Laws rules;
         private int n;
