@@ -151,6 +151,7 @@ public final class MindTest {
         x.by(Check.text(x, "jar 99;"));
         c.is("30: from 1 on", x.from(1, 1, 0), 1);
         c.is("30: 9990 nights", x.lamp(1, 1, 1, 989), 9990);
+        c.is("30: 10000 nights", x.lamp(1, 1, 1, 990), -1);
         c.is("30: beyond 9999", x.lamp(1, 1, 1, 999), -1);
         // from 1 and from 2 on cost as much: the lowest's harm
         x.stair(2, 2);

@@ -12,6 +12,7 @@ public final class TalesTest {
         alikeNone();
         image();
         imageOfAll();
+        imageOfRows();
         c.end("TalesTest");
     }
 
@@ -275,5 +276,39 @@ public final class TalesTest {
         c.is("42: what laws say", x.says(0, 0, 0, 1, 3), 7);
         c.is("42: what is taken back", x.undo(), 3);
         c.is("42: at the landing", x.way(3), 0);
+    }
+
+    /** What is written over behind an image is there again. */
+    private static void imageOfRows() {
+        OneStepMore x = new OneStepMore();
+        x.person(0, 0, 0);
+        x.person(0, 0, 0);
+        Check.text(x, "trips nth=2;");
+        x.seen(0, 0, 2, true);
+        x.night(1);
+        x.stair(3, 2);
+        down(x, 0, 3);
+        x.begin(1, 2, 3);
+        x.image();
+        x.seen(-1, 0, 0, true);
+        x.seen(1, 0, 1, true);
+        for (int i = 0; i < 4; i++) {
+            x.undo();
+        }
+        x.night(40);
+        down(x, 1, 0);
+        x.back();
+        c.is("42: what was seen", x.laws(), 1);
+        c.is("42: the line's person", x.book(0, 0), 0);
+        c.is("42: the line's house", x.book(0, 1), 3);
+        c.is("42: the line's night", x.book(0, 2), 1);
+        c.is("42: who is on the way", x.way(0), 1);
+        c.is("42: acts", x.undo(), 3);
+        x.undo();
+        c.is("42: the act's house", x.way(1), 3);
+        c.is("42: the act's night", x.about(1), 1);
+        x.undo();
+        x.undo();
+        c.is("42: the first act's night", x.about(1), 0);
     }
 }
