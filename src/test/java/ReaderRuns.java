@@ -25,6 +25,10 @@ public final class ReaderRuns {
                 place = f.place;
             }
             faults[what]++;
+            // an object is for 512 calls
+            if (i % 10 == 0) {
+                x = new OneStepMore();
+            }
             x.back();
             feed(x, bytes);
             int got = x.text();
