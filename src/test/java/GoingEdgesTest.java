@@ -26,6 +26,7 @@ public final class GoingEdgesTest {
         weekFromFirstToLast();
         weekTill999();
         weekGone();
+        weekOfKind0();
         c.end("GoingEdgesTest");
     }
 
@@ -287,6 +288,19 @@ public final class GoingEdgesTest {
         x.begin(0, 0, 0);
         x.stop();
         c.is("16: fall, 99 at most", x.book(15, 5), 99);
+        x.by(Check.text(x, "fall 1+2*loaded+4*drunk+8*house;jar 16+2*loaded+4*drunk+8*house;"));
+        for (int kind = 0; kind < 4; kind++) {
+            x.begin(0, 3, kind);
+            x.stop();
+            c.is("16: fall of kind " + kind, x.book(16 + kind, 5), 1 + 2 * kind + 24);
+        }
+        x.stair(3, 1);
+        for (int kind = 0; kind < 4; kind++) {
+            x.begin(0, 3, kind);
+            x.toe();
+            x.step();
+            c.is("14: jar of kind " + kind, x.book(20 + kind, 5), 16 + 2 * kind + 24);
+        }
     }
 
     private static void nights() {
@@ -587,6 +601,22 @@ public final class GoingEdgesTest {
             }
             x.undo();
             c.is("20: NIGHT as ahead of it", x.about(1), from);
+        }
+    }
+
+    private static void weekOfKind0() {
+        OneStepMore x = new OneStepMore();
+        x.person(10, 0, 0);
+        for (int house = 0; house < 4; house++) {
+            x.stair(house, 4);
+            x.mark(house, 3, true);
+        }
+        x.by(Check.text(x, "jar 7+20*loaded+40*drunk;fall 3+20*loaded+40*drunk;trips nth=2 or drunk=1 or loaded=1;"));
+        c.is("19: HARM", x.week(1, 30), 7 * (7 + 3));
+        for (int i = 0; i < 7; i++) {
+            c.is("19: not LOADED: a MARK", x.book(i, 3), 3);
+            c.is("19: one TRIP", x.book(i, 7), 1);
+            c.is("19: HARM of it", x.book(i, 5), 10);
         }
     }
 

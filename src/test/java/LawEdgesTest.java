@@ -121,6 +121,9 @@ public final class LawEdgesTest {
             either("6" + signs[i] + "5", due[i][2]);
             either("-6" + signs[i] + "-5", due[i][0]);
             either("not 4" + signs[i] + "5", !due[i][0]);
+            either("not 5" + signs[i] + "5", !due[i][1]);
+            either("not 6" + signs[i] + "5", !due[i][2]);
+            either("not not not 6" + signs[i] + "5", !due[i][2]);
             either("not not 5" + signs[i] + "5", due[i][1]);
         }
         String yes = "1=1";
@@ -287,6 +290,14 @@ public final class LawEdgesTest {
             c.is("II: behind it, kind " + kind, x.says(0, 3, kind, 14, 2), 0);
             c.is("II: without a RAIL, kind " + kind, x.says(0, 0, kind, 1, 2), 0);
         }
+        x.by(Check.text(x, "none rail+4;twice drunk+5;jar loaded+6;"));
+        for (int kind = 0; kind < 4; kind++) {
+            c.is("II: rail 1 or 0, kind " + kind, x.says(0, 3, kind, 1, 0), kind % 2 == 0 ? 5 : 4);
+            c.is("II: rail 0, kind " + kind, x.says(0, 3, kind, 14, 0), 4);
+            c.is("II: drunk 1 or 0, kind " + kind, x.says(0, 3, kind, 14, 1), kind / 2 + 5);
+            c.is("II: loaded 1 or 0, kind " + kind, x.says(0, 3, kind, 14, 3), kind % 2 + 6);
+        }
+        x.by(1);
         c.is("II: nights 0", x.says(0, 0, 0, 1, 3), 0);
         for (int i = 0; i < 10; i++) {
             x.night(99);

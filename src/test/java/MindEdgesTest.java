@@ -114,6 +114,17 @@ public final class MindEdgesTest {
         for (int house = 0; house < 4; house++) {
             c.is("25: each HOUSE", x.where(0, house, 3, 0, 12, true), 13);
         }
+        OneStepMore y = twice();
+        for (int count = -40; count < 0; count++) {
+            c.is("25: COUNT " + count, y.where(0, 0, 0, count, 14, false), -1);
+            c.is("31: COUNT " + count, y.which(0, count, 0, false), -1);
+            c.is("32: COUNT " + count, y.whether(0, 0, count, false), -1);
+        }
+        for (int count = 30; count < 70; count++) {
+            c.is("25: COUNT " + count, y.where(0, 0, 0, count, 0, false), -1);
+            c.is("31: COUNT " + count, y.which(0, count, 0, false), -1);
+            c.is("32: COUNT " + count, y.whether(0, 0, count, false), -1);
+        }
     }
 
     private static void cost(OneStepMore x, int kind, int f, long upper, long lower) {

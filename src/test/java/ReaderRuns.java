@@ -4,38 +4,26 @@ import java.util.Random;
 
 /** Many texts, read by OneStepMore and by the Model: each has the same FAULT at the same place. */
 public final class ReaderRuns {
+    private static final String[] TOKENS = {
+        "none", "twice", "trips", "jar", "fall", "stair", "high", "mark", "rail", "one", "begin", "load", "drink", "step",
+        "toe", "stop", "night", "long", "at", "of", "landing", "if", "end", "not", "or", "and", "who", "house", "steps",
+        "drunk", "loaded", "nights", "nth", "height", "last", "<", "<=", ">", ">=", "=", "#", "+", "-", "*", "/", "(", ")",
+        ";", "?", ":", "0", "1", "3", "9", "14", "9999", "10000", "wow", "!", "\t"};
+    private static final String[] TEXTS = {
+        "stair 1 long 2 ;", "high 1 at 2 of 3 ;", "mark 1 of 2 ;", "rail 1 of 2 ;", "one 1 twice 2 landing 3 ;",
+        "begin 1 at 2 ;", "load 1 at 2 ;", "drink 1 at 2 ;", "step 1 ;", "toe 1 ;", "stop ;", "night 1 ;",
+        "none 1 + who ;", "twice 1 * ( 2 - 1 ) / nth ;", "jar - 1 ;", "fall if not 1 < 2 or 1 = 1 and 2 # 3 ? 4 : 5 end ;",
+        "trips not 1 < 2 or ( 1 ) = 1 and 2 >= - 3 ;", "jar ( ( ( ( ( ( ( 1 ) ) ) ) ) ) ) ;",
+        "trips not not not not not not not 1 = 1 ;", "jar 1 ; stop ; fall 2 ;"};
+    private static final int[] faults = new int[7];
+    private static OneStepMore x = new OneStepMore();
+    private static int read = 0;
+    private static int wrong = 0;
+
     public static void main(String[] args) {
-        Random random = new Random(77);
-        Writer writer = new Writer(random);
-        OneStepMore x = new OneStepMore();
-        int[] faults = new int[7];
-        int wrong = 0;
+        Writer writer = new Writer(new Random(77));
         for (int i = 0; i < 20000 && wrong < 5; i++) {
-            String text = writer.text();
-            List<Integer> bytes = new ArrayList<>();
-            for (int k = 0; k < Math.min(300, text.length()); k++) {
-                bytes.add(text.charAt(k) & 255);
-            }
-            int what = 0;
-            int place = -1;
-            try {
-                Model.read(bytes);
-            } catch (Model.Fault f) {
-                what = f.what;
-                place = f.place;
-            }
-            faults[what]++;
-            // an object is for 512 calls
-            if (i % 10 == 0) {
-                x = new OneStepMore();
-            }
-            x.back();
-            feed(x, bytes);
-            int got = x.text();
-            if (got != (what == 0 ? 0 : -1) || x.fault(0) != what || x.fault(1) != place || x.about(8) != 0) {
-                wrong++;
-                System.out.println(x.fault(0) + " at " + x.fault(1) + ", due is " + what + " at " + place + ": " + text);
-            }
+            check(writer.text());
         }
         for (int i = 0; i < faults.length; i++) {
             if (faults[i] < 20) {
@@ -43,9 +31,61 @@ public final class ReaderRuns {
                 System.out.println("too few texts with FAULT " + i);
             }
         }
-        System.out.println(wrong == 0 ? "all texts are read alike" : "texts are read otherwise");
+        for (String text : TEXTS) {
+            anyTokenAnywhere(text.split(" "));
+        }
+        System.out.println(wrong == 0 ? "all " + read + " texts are read alike" : "texts are read otherwise");
         if (wrong != 0) {
             System.exit(1);
+        }
+    }
+
+    /** Each TOKEN in the place of each other, ahead of each, and each left out. */
+    private static void anyTokenAnywhere(String[] tokens) {
+        for (int i = 0; i < tokens.length; i++) {
+            String ahead = joined(tokens, 0, i);
+            String behind = joined(tokens, i + 1, tokens.length);
+            check(ahead + behind);
+            for (String token : TOKENS) {
+                check(ahead + token + " " + behind);
+                check(ahead + token + " " + tokens[i] + " " + behind);
+            }
+        }
+    }
+
+    private static String joined(String[] tokens, int from, int to) {
+        StringBuilder all = new StringBuilder();
+        for (int i = from; i < to; i++) {
+            all.append(tokens[i]).append(' ');
+        }
+        return all.toString();
+    }
+
+    private static void check(String text) {
+        List<Integer> bytes = new ArrayList<>();
+        for (int k = 0; k < Math.min(300, text.length()); k++) {
+            bytes.add(text.charAt(k) & 255);
+        }
+        int what = 0;
+        int place = -1;
+        try {
+            Model.read(bytes);
+        } catch (Model.Fault f) {
+            what = f.what;
+            place = f.place;
+        }
+        faults[what]++;
+        // an object is for 512 calls
+        if (read % 10 == 0) {
+            x = new OneStepMore();
+        }
+        read++;
+        x.back();
+        feed(x, bytes);
+        int got = x.text();
+        if (got != (what == 0 ? 0 : -1) || x.fault(0) != what || x.fault(1) != place || x.about(8) != 0) {
+            wrong++;
+            System.out.println(x.fault(0) + " at " + x.fault(1) + ", due is " + what + " at " + place + ": " + text);
         }
     }
 

@@ -272,6 +272,13 @@ public final class TextEdgesTest {
         fault("trips 1<>1;", 1, 8);
         fault("trips 1<==1;", 1, 9);
         fault("trips 1##1;", 1, 8);
+        fault("jar if 1=1:2?3 end;", 1, 10);
+        fault("jar if 1=1?2?3 end;", 1, 12);
+        fault("jar if 1=1:2:3 end;", 1, 10);
+        fault("jar (1(;", 1, 6);
+        fault("jar )1);", 1, 4);
+        fault("jar 1:", 1, 5);
+        fault("jar 1?", 1, 5);
         fine("jar if 1=1?2:3end;");
         fault("jar if1=1?2:3 end;", 0, -1);
         fault("jar who steps;", 1, 8);

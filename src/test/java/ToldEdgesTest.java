@@ -224,6 +224,12 @@ public final class ToldEdgesTest {
         x.stair(1, 1);
         c.is("5: 1 of 1", x.rail(1, 1), true);
         c.is("5: 2 of 1", x.rail(1, 2), false);
+        for (int to = 0; to <= 14; to++) {
+            x.rail(3, to);
+            for (int step = 1; step <= 14; step += 3) {
+                c.is("5: as far as " + to + ", STEP " + step, x.says(0, 3, 0, step, 2), step <= to ? 1 : 0);
+            }
+        }
     }
 
     private static void people() {
