@@ -9,6 +9,7 @@ public final class MindEdgesTest {
     public static void main(String[] args) {
         whereAllCounts();
         whereStays();
+        rarest();
         whereMarks();
         whereAsked();
         costFromFirstToLast();
@@ -71,6 +72,23 @@ public final class MindEdgesTest {
             c.is("25: AT n + 1", x.where(0, 0, 0, 0, n + 1, false), -1);
             c.is("25: AT -1", x.where(0, 0, 0, 0, -1, false), -1);
             c.is("25: COUNT 1 nowhere", x.where(0, 0, 0, 1, 0, false), -1);
+        }
+    }
+
+    /** One that is AT n alone, as seldom as can be: once in ten to the power of n + 1. */
+    private static void rarest() {
+        for (int n = 1; n <= 14; n++) {
+            OneStepMore x = new OneStepMore();
+            x.person(0, 1, 1);
+            x.stair(0, n);
+            int count = 1 + 2 * n;
+            where(x, 0, count, n, 1, 1);
+            where(x, 0, count, n - 1, 0, 1);
+            c.is("25: one more is nowhere", x.where(0, 0, 0, count + 1, n, false), -1);
+            which(x, count, 0, 1, 1);
+            which(x, count + (n < 14 ? 1 : 0), 0, n < 14 ? 0 : 1, 1);
+            whether(x, count, 1, 1);
+            c.is("32: one more is nowhere", x.whether(0, 0, count + 1, false), -1);
         }
     }
 
@@ -242,6 +260,12 @@ public final class MindEdgesTest {
         x.mark(0, 9, true);
         x.mark(0, 14, false);
         c.is("28: the last STEP", x.worth(1, 0, 0), 14);
+        // AT 1 COUNT 2 is felt, if the LANDING was counted: a MARK ahead of the one that stands helps
+        x.person(0, 0, 5);
+        x.stair(0, 2);
+        x.mark(0, 2, true);
+        c.is("28: ahead of one that stands", x.worth(2, 0, 0), 1);
+        c.is("28: no MARK is made by it", x.house(0, 1), 4);
     }
 
     private static void worthLowest() {

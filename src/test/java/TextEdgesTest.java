@@ -10,6 +10,7 @@ public final class TextEdgesTest {
         tapeEnds();
         textOf300();
         fourTexts();
+        manyRead();
         faultEmptiesTheTape();
         faultOfTheLatest();
         theText();
@@ -165,6 +166,36 @@ public final class TextEdgesTest {
         c.is("10: the tape stayed", x.text(), 0);
         x.by(0);
         c.is("10: all of it", jar(x), 14);
+    }
+
+    /** What was read ahead, with a FAULT or without, leaves nothing behind. */
+    private static void manyRead() {
+        OneStepMore x = new OneStepMore();
+        x.person(2, 1, 0);
+        String[] laws = {"none ", "twice ", "jar ", "fall "};
+        for (int i = 0; i < 4; i++) {
+            for (int k = 0; k < 4; k++) {
+                String faulty = "stair 1 long 9;none 9;twice 1;jar 98;fall 97;trips 1=1;stop;" + times("night 1;", 17);
+                c.is("10: a FAULT in the last CLAUSE", Check.text(x, faulty + times("jar 1;", k)), k == 0 ? 0 : -1);
+                x.back();
+                x.person(2, 1, 0);
+            }
+        }
+        for (int i = 0; i < 4; i++) {
+            c.is("10: 140 SUMS", Check.text(x, laws[i] + "1" + times("+1*1", 70) + "-" + (70 - i) + ";"), i);
+        }
+        for (int i = 0; i < 4; i++) {
+            x.by(i);
+            int[] due = {2, 1, 5, 9};
+            due[i] = i + 1;
+            c.is("23: none by TEXT " + i, x.says(0, 0, 0, 1, 0), due[0]);
+            c.is("23: twice by TEXT " + i, x.says(0, 0, 0, 1, 1), due[1]);
+            c.is("23: trips by TEXT " + i, x.says(0, 0, 0, 1, 2), 0);
+            c.is("23: jar by TEXT " + i, x.says(0, 0, 0, 1, 3), due[2]);
+            c.is("23: fall by TEXT " + i, x.says(0, 0, 0, 1, 4), due[3]);
+            c.is("18: nothing is PLAYED by TEXT " + i, x.played(i), -1);
+            c.is("18: no NIGHT", x.about(1), 0);
+        }
     }
 
     private static void faultEmptiesTheTape() {
