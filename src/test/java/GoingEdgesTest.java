@@ -14,6 +14,7 @@ public final class GoingEdgesTest {
         marked();
         tripped();
         stopped();
+        stoppedBehindTrips();
         nights();
         bookOf40();
         bookAsked();
@@ -300,6 +301,39 @@ public final class GoingEdgesTest {
             x.toe();
             x.step();
             c.is("14: jar of kind " + kind, x.book(20 + kind, 5), 16 + 2 * kind + 24);
+        }
+    }
+
+    /** HARM is more by what comes behind: TRIPS and fall, TRIPS and jar. */
+    private static void stoppedBehindTrips() {
+        OneStepMore x = new OneStepMore();
+        x.person(0, 0, 0);
+        x.stair(0, 3);
+        x.height(0, 1, 9);
+        x.height(0, 2, 9);
+        for (int trips = 0; trips <= 2; trips++) {
+            x.begin(0, 0, 0);
+            for (int i = 0; i < 2; i++) {
+                // STEP 2 is like STEP 1 ahead of it, STEP 3 isn't
+                c.is("14: AT", i < trips ? x.step() : x.toe(), i + 1);
+            }
+            int harm = trips > 0 ? 9 : 0;
+            c.is("14: HARM", x.way(6), harm);
+            c.is("16: not AT n", x.stop(), 3);
+            c.is("16: HARM is more by fall", x.book(3 * trips, 5), harm + 9);
+            x.begin(0, 0, 0);
+            for (int i = 0; i < 3; i++) {
+                c.is("14: AT", i < trips || i == 2 ? x.step() : x.toe(), i + 1);
+            }
+            c.is("16: AT n", x.stop(), 2);
+            c.is("16: HARM stays", x.book(3 * trips + 1, 5), harm + 9);
+            c.is("16: TRIPS stay", x.book(3 * trips + 1, 7), trips > 0 ? 2 : 1);
+            x.begin(0, 0, 0);
+            for (int i = 0; i < 3; i++) {
+                c.is("14: AT", i < trips ? x.step() : x.toe(), i + 1);
+            }
+            c.is("15: felt, or a JAR", trips == 0 ? x.toe() : x.step(), 3);
+            c.is("14: HARM is more by jar", x.book(3 * trips + 2, 5), trips == 0 ? 0 : harm + 5);
         }
     }
 

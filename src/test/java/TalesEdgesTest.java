@@ -13,9 +13,11 @@ public final class TalesEdgesTest {
         legsNone();
         legsLike();
         legsOf40();
+        legsOfOneAlone();
         legsAsked();
         trippersAsked();
         seenTill12();
+        seenEachOf12();
         seenAsked();
         lawsOfAll();
         lawsAtStepsThatAreNoMore();
@@ -186,6 +188,26 @@ public final class TalesEdgesTest {
         c.is("36: 14 again", x.legs(0, -1), 3);
     }
 
+    private static void legsOfOneAlone() {
+        OneStepMore x = new OneStepMore();
+        x.person(0, 0, 0);
+        x.person(0, 0, 0);
+        x.stair(0, 3);
+        x.stair(1, 4);
+        down(x, 0, 0);
+        down(x, 0, 0);
+        down(x, 0, 1);
+        for (int i = 0; i < 5; i++) {
+            down(x, 1, 1);
+        }
+        c.is("36: the other's NIGHTS in a HOUSE don't count", x.legs(0, -1), 3);
+        c.is("36: nor are they the latest", x.legs(0, 1), -1);
+        c.is("36: the other's own", x.legs(1, -1), 4);
+        down(x, 0, 1);
+        down(x, 1, 0);
+        c.is("36: as often, the one's own latest", x.legs(0, -1), 4);
+    }
+
     private static void legsAsked() {
         OneStepMore x = new OneStepMore();
         x.person(0, 0, 0);
@@ -247,6 +269,43 @@ public final class TalesEdgesTest {
         c.is("38: none of none", x.seen(-1, 3, 14, false), 0);
         c.is("38: one", x.seen(0, 0, 12, false), 1);
         c.is("39: that one alone", x.laws(), 0);
+    }
+
+    /** Of 12 that were SEEN each one counts, by its PERSON, HOUSE, STEP and what was SEEN there. */
+    private static void seenEachOf12() {
+        for (int wrong = 0; wrong <= 12; wrong++) {
+            OneStepMore x = new OneStepMore();
+            for (int i = 0; i < 6; i++) {
+                x.person(0, 0, 0);
+            }
+            for (int i = 0; i < 4; i++) {
+                x.stair(i, 14);
+            }
+            Check.text(x, "trips (who*4+house*3+nth)/2*2=who*4+house*3+nth;");
+            for (int i = 0; i < 12; i++) {
+                int person = i % 6;
+                int house = i % 4;
+                int step = 14 - i;
+                boolean trips = (person * 4 + house * 3 + step) % 2 == 0;
+                x.seen(person, house, step, trips == (i != wrong));
+            }
+            c.is("39: all 12 are so but " + wrong, x.laws(), wrong == 12 ? 1 : 0);
+        }
+        for (int other = 0; other < 3; other++) {
+            OneStepMore x = new OneStepMore();
+            for (int i = 0; i < 6; i++) {
+                x.person(0, 0, 0);
+            }
+            Check.text(x, "trips who=5 and house=3 and nth=12;");
+            for (int i = 0; i < 11; i++) {
+                x.seen(0, 0, 1, false);
+            }
+            x.seen(other == 0 ? 4 : 5, other == 1 ? 2 : 3, other == 2 ? 11 : 12, false);
+            c.is("39: beside that one", x.laws(), 1);
+            x.seen(-1, 0, 0, true);
+            x.seen(5, 3, 12, true);
+            c.is("39: that one", x.laws(), 1);
+        }
     }
 
     private static void seenAsked() {

@@ -19,6 +19,7 @@ public final class TextEdgesTest {
         numbersOfDeeds();
         numbersOfSums();
         endAtTheLength();
+        sumsThatAskNothing();
         deepOf8();
         deepClosed();
         secondTime();
@@ -392,6 +393,35 @@ public final class TextEdgesTest {
                 }
             }
         }
+    }
+
+    /** Where an ASK is due a SUM alone is none: what is behind it can't stand there. */
+    private static void sumsThatAskNothing() {
+        fault("trips 1;", 1, 7);
+        fault("trips nth", 1, 9);
+        fault("trips 1+2*(3);", 1, 13);
+        fault("trips not 1;", 1, 11);
+        fault("trips 1 and 1=1;", 1, 8);
+        fault("trips 1 or 1=1;", 1, 8);
+        fault("trips 1=1 and 1;", 1, 15);
+        fault("trips 1=1 or nth;", 1, 16);
+        fault("trips 1=1 or not nth or 1=1;", 1, 21);
+        fault("jar if 1?2:3 end;", 1, 8);
+        fault("jar if 1=1 and who?2:3 end;", 1, 18);
+        fault("jar if not 1 ?2:3 end;", 1, 13);
+        // and an ASK is no SUM
+        fault("jar 1=1;", 1, 5);
+        fault("none 1<2;", 1, 6);
+        fault("jar not 1=1;", 1, 4);
+        fault("jar if 1=1?2<3:4 end;", 1, 12);
+        fault("jar if 1=1?2:3#4 end;", 1, 14);
+        fault("trips 1=1=1;", 1, 9);
+        fault("trips (1=1);", 1, 8);
+        fault("trips (not 1=1);", 1, 7);
+        fault("trips -not 1=1;", 1, 7);
+        fault("trips 1=not 1=1;", 1, 8);
+        fault("jar 1 or 2;", 1, 6);
+        fault("jar 1 and 2;", 1, 6);
     }
 
     private static void deepOf8() {
