@@ -13,6 +13,7 @@ public final class GoingEdgesTest {
         countedByLaws();
         marked();
         tripped();
+        toldOnTheWay();
         stopped();
         stoppedBehindTrips();
         nights();
@@ -22,6 +23,7 @@ public final class GoingEdgesTest {
         whatIsAnAct();
         takenBack();
         takenBackShorter();
+        atIsNoCount();
         thirtyWeeksBack();
         weekAsked();
         weekFromFirstToLast();
@@ -268,6 +270,43 @@ public final class GoingEdgesTest {
         x.toe();
         c.is("15: no TRIP by a TOE", x.way(7), 0);
         c.is("15: no HARM by a TOE", x.way(6), 0);
+    }
+
+    /** What is told while one is on the way counts from there on. */
+    private static void toldOnTheWay() {
+        OneStepMore x = new OneStepMore();
+        x.person(0, 0, 0);
+        x.stair(0, 6);
+        Check.text(x, "trips nth<3;none 10;");
+        Check.text(x, "jar nights;fall 3;");
+        x.begin(0, 0, 0);
+        x.step();
+        c.is("14: none rules", x.way(4), 1);
+        x.by(0);
+        x.step();
+        c.is("14: TEXT 0 rules: COUNT", x.way(4), 1);
+        c.is("14: TEXT 0 rules: TRIPS", x.way(7), 1);
+        c.is("14: TEXT 0 rules: HARM", x.way(6), 9);
+        x.by(1);
+        x.mark(0, 3, true);
+        x.step();
+        c.is("14: a MARK", x.way(4), 3);
+        x.height(0, 4, 8);
+        x.step();
+        c.is("14: a HEIGHT: TRIPS", x.way(7), 2);
+        c.is("14: TEXT 1 rules: HARM", x.way(6), 12);
+        x.height(0, 4, 5);
+        x.step();
+        c.is("14: a HEIGHT as ahead of it", x.way(7), 2);
+        x.mark(0, 6, true);
+        x.mark(0, 6, false);
+        x.toe();
+        c.is("15: a MARK that is away", x.way(4), 6);
+        c.is("17: NIGHTS go by on the way", x.night(8), 8);
+        c.is("17: on the way yet", x.way(3), 6);
+        x.step();
+        c.is("14: jar of that NIGHT", x.book(0, 5), 12 + 8);
+        c.is("24: that NIGHT is written", x.book(0, 2), 8);
     }
 
     private static void stopped() {
@@ -551,6 +590,33 @@ public final class GoingEdgesTest {
         x.stair(0, 9);
         x.undo();
         c.is("20: the HOUSE has it again", x.way(3), 5);
+    }
+
+    /** Where one is, not what one COUNTS: STOPPED, a JAR, and what is taken back. */
+    private static void atIsNoCount() {
+        for (int person = 0; person < 2; person++) {
+            for (int at = 0; at <= 6; at++) {
+                OneStepMore x = new OneStepMore();
+                x.person(10, 0, 0);
+                x.person(0, 10, 10);
+                x.stair(1, 6);
+                x.begin(person, 1, 0);
+                for (int i = 0; i < at; i++) {
+                    x.step();
+                }
+                int count = person == 0 ? 0 : 1 + 2 * at;
+                c.is("14: COUNT", x.way(4), count);
+                c.is("16: how", x.stop(), at == 6 ? 2 : 3);
+                c.is("16: COUNT is written", x.book(0, 3), count);
+                x.stair(1, 4);
+                x.undo();
+                c.is("20: AT n, if AT is beyond", x.way(3), Math.min(4, at));
+                c.is("20: COUNT as it was", x.way(4), count);
+                int before = x.book(-1, 0);
+                c.is("14: AT", x.step(), Math.min(4, at + 1));
+                c.is("14: a JAR, or not", x.book(-1, 0), at >= 4 ? before + 1 : before);
+            }
+        }
     }
 
     private static void thirtyWeeksBack() {

@@ -21,6 +21,7 @@ public final class LawEdgesTest {
         playedNights();
         playedPlace();
         playedDeeds();
+        playedBegun();
         c.end("LawEdgesTest");
     }
 
@@ -156,6 +157,14 @@ public final class LawEdgesTest {
         due("if 1=1?3:9999*9999/0 end+1", 4);
         due("if 1=2?9999*9999/0:3 end+1", 4);
         due("2*if 1=1?3:4 end+if 1=2?5:6 end", 12);
+        // each of them a SUM
+        due("if 1=1?2+3:4+5 end", 5);
+        due("if 1=2?2+3:4+5 end", 9);
+        due("if 1=1?9-2-3:4 end", 4);
+        due("if 1=2?9:8-3*2+1 end", 3);
+        due("if 1+1=3-1?7:8 end", 7);
+        due("if 1=1?-3+5:6 end", 2);
+        due("if 1=2?6:-(3-5)+1 end", 3);
     }
 
     private static void noneBounds() {
@@ -452,5 +461,26 @@ public final class LawEdgesTest {
         String one = "one 0 twice 0 landing 0;";
         c.is("18: the seventh", played(x, one + one + one + one + one + one + one), 6);
         c.is("18: six", x.about(0), 6);
+    }
+
+    private static void playedBegun() {
+        String[] words = {"begin", "load", "drink"};
+        int[] kinds = {0, 1, 2};
+        for (int i = 0; i < words.length; i++) {
+            for (int person = 0; person < 6; person++) {
+                for (int house = 0; house < 4; house++) {
+                    OneStepMore x = new OneStepMore();
+                    for (int p = 0; p < 6; p++) {
+                        x.person(0, 0, 10);
+                    }
+                    String clause = words[i] + " " + person + " at " + house + ";";
+                    c.is("18: " + clause, played(x, clause), -1);
+                    int[] due = {person, house, kinds[i], 0, 1, 0, 0, 0};
+                    for (int what = 0; what < 8; what++) {
+                        c.is("18: " + clause + " way " + what, x.way(what), due[what]);
+                    }
+                }
+            }
+        }
     }
 }

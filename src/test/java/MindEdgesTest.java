@@ -11,6 +11,7 @@ public final class MindEdgesTest {
         whereStays();
         rarest();
         whereMarks();
+        whereGathered();
         whereAsked();
         costFromFirstToLast();
         costAsked();
@@ -20,7 +21,9 @@ public final class MindEdgesTest {
         worthLowest();
         worthAsked();
         goesThree();
+        goesOfEachHouse();
         lampFirstAndLast();
+        lampOfTrips();
         lampNone();
         lampAsked();
         whichOfTold();
@@ -32,6 +35,7 @@ public final class MindEdgesTest {
         sureAsked();
         averageAll();
         nightAsNow();
+        behindGoodOnes();
         c.end("MindEdgesTest");
     }
 
@@ -108,6 +112,29 @@ public final class MindEdgesTest {
         where(x, 0, 1, 1, 1, 13);
         where(x, 0, 1, 13, 1, 13);
         where(x, 0, 0, 0, 1, 1);
+    }
+
+    /** All COUNTS, also the highest, are the MARK's number at it. */
+    private static void whereGathered() {
+        for (int step = 1; step <= 14; step++) {
+            OneStepMore x = twice();
+            x.mark(0, step, true);
+            // ahead of it 1, 3, ..; from it on step, step + 2, ..
+            boolean odd = step % 2 == 1;
+            boolean also = odd && step <= 1 + 2 * (step - 1);
+            where(x, 0, step, step, 1, also ? 2 : 1);
+            where(x, 0, step + 2 * (14 - step), 14, 1, odd && step + 2 * (14 - step) <= 1 + 2 * (step - 1) ? 2 : 1);
+            where(x, 1, 29, 14, 1, 1);
+            which(x, step + 2 * (14 - step), 0, 1, 1);
+            whether(x, step + 2 * (14 - step), 1, 1);
+        }
+        // COUNT 14 ahead of it is 7 of t STEPS twice, AT t from 7 to 13: (16 + 64 + 144 + 240 + 330 + 396 + 429) by 4096
+        OneStepMore x = new OneStepMore();
+        x.person(5, 5, 5);
+        x.stair(0, 14);
+        x.mark(0, 14, true);
+        where(x, 0, 14, 14, 4096, 4096 + 1619);
+        c.is("32: half of them", x.whether(0, 0, 14, true), 2);
     }
 
     private static void whereAsked() {
@@ -329,6 +356,22 @@ public final class MindEdgesTest {
         c.is("29: HOUSE 3", x.goes(0, 3), 1);
     }
 
+    private static void goesOfEachHouse() {
+        for (int house = 0; house < 4; house++) {
+            OneStepMore x = new OneStepMore();
+            x.person(10, 0, 0);
+            x.person(0, 0, 0);
+            for (int other = 0; other < 4; other++) {
+                x.stair(other, other == house ? 1 : 14);
+            }
+            // of 1 STEP: two ways of 2 SECONDS, and one of 2 with HARM, or 4 with a TOE; of 14 STEPS: 15, and 15 + 2 at most
+            x.by(Check.text(x, "jar if loaded=1?3:0 end;trips loaded=1 and steps=1;fall 1;"));
+            for (int other = 0; other < 4; other++) {
+                c.is("29: HOUSE " + other + " beside " + house, x.goes(1, other), other == house ? 1 : 0);
+            }
+        }
+    }
+
     private static void lampFirstAndLast() {
         OneStepMore x = new OneStepMore();
         x.person(0, 0, 0);
@@ -353,6 +396,22 @@ public final class MindEdgesTest {
         c.is("30: one that can't", y.lamp(0, 0, 1, 738), -1);
         c.is("30: at 2 pence it can", y.lamp(0, 0, 2, 738), 5007);
         c.is("30: the dearest", y.lamp(0, 0, 1, 999), -1);
+    }
+
+    /** HARM of TRIPS counts as often as the STEP is boldly gone: COUNT is 0 or 1 at first, each in 5 of 10. */
+    private static void lampOfTrips() {
+        OneStepMore x = new OneStepMore();
+        x.person(0, 0, 5);
+        x.stair(0, 2);
+        Check.text(x, "trips nth=1;fall 1;jar 9;");
+        Check.text(x, "trips nth=2;fall 1;jar 9;");
+        x.by(0);
+        c.is("30: from 2 on is best", x.from(0, 0, 0), 2);
+        c.is("30: a TRIP each NIGHT", x.lamp(0, 0, 1, 10), 10);
+        x.by(1);
+        c.is("30: from 2 on is best here too", x.from(0, 0, 0), 2);
+        c.is("30: a TRIP each second NIGHT", x.lamp(0, 0, 1, 10), 20);
+        c.is("30: of 3 pence", x.lamp(0, 0, 3, 10), 7);
     }
 
     private static void lampNone() {
@@ -591,5 +650,37 @@ public final class MindEdgesTest {
         x.night(98);
         cost(x, 0, 30, 101, 1);
         c.is("26: nothing is changed", x.about(1), 99);
+    }
+
+    /** What was asked ahead leaves nothing for a wrong question to be answered by. */
+    private static void behindGoodOnes() {
+        OneStepMore x = new OneStepMore();
+        x.person(3, 1, 5);
+        x.stair(0, 14);
+        for (int wild : new int[] {Integer.MIN_VALUE, -1, 4, 6, Integer.MAX_VALUE}) {
+            c.is("28: a good one", x.worth(0, 0, 0) > 0, true);
+            c.is("28: person " + wild, x.worth(wild, 0, 0), -1);
+            c.is("28: house " + wild, x.worth(0, wild, 0), -1);
+            c.is("28: kind " + wild, x.worth(0, 0, wild), -1);
+            c.is("25: person " + wild, x.where(wild, 0, 0, 7, 7, true), -1);
+            c.is("25: house " + wild, x.where(0, wild, 0, 7, 7, true), -1);
+            c.is("25: kind " + wild, x.where(0, 0, wild, 7, 7, true), -1);
+            c.is("26: person " + wild, x.cost(wild, 0, 0, 7, true), -1);
+            c.is("26: house " + wild, x.cost(0, wild, 0, 7, true), -1);
+            c.is("26: kind " + wild, x.cost(0, 0, wild, 7, true), -1);
+            c.is("27: person " + wild, x.from(wild, 0, 0), -1);
+            c.is("27: house " + wild, x.from(0, wild, 0), -1);
+            c.is("27: kind " + wild, x.from(0, 0, wild), -1);
+            c.is("29: person " + wild, x.goes(wild, 0), -1);
+            c.is("29: house " + wild, x.goes(0, wild), -1);
+            c.is("30: person " + wild, x.lamp(wild, 0, 9, 9), -1);
+            c.is("30: house " + wild, x.lamp(0, wild, 9, 9), -1);
+            c.is("31: person " + wild, x.which(wild, 14, 0, true), -1);
+            c.is("31: house " + wild, x.which(0, 14, wild, true), -1);
+            c.is("32: person " + wild, x.whether(wild, 0, 14, true), -1);
+            c.is("32: house " + wild, x.whether(0, wild, 14, true), -1);
+        }
+        sure(x, 2, 3, 5, 23589, 50000);
+        sure(x, 1, 3, 2, 51, 100);
     }
 }

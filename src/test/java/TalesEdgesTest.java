@@ -27,6 +27,7 @@ public final class TalesEdgesTest {
         alikeLowest();
         alikeAsked();
         imageKeepsAll();
+        imageOfUnlikeNumbers();
         imageStays();
         c.end("TalesEdgesTest");
     }
@@ -568,6 +569,62 @@ public final class TalesEdgesTest {
         x.back();
         c.is("42: no byte comes back", x.about(8), 0);
         c.is("42: no FAULT either", x.fault(0), 2);
+    }
+
+    /** Each of the numbers is unlike each other, in THE IMAGE and behind it. */
+    private static void imageOfUnlikeNumbers() {
+        OneStepMore x = new OneStepMore();
+        for (int i = 0; i < 4; i++) {
+            x.person(i, 1, 9 - i);
+        }
+        x.rail(1, 2);
+        x.rail(2, 3);
+        x.night(7);
+        Check.text(x, "jar 1;");
+        Check.text(x, "jar 2;");
+        Check.text(x, "jar 3;");
+        for (int i = 0; i < 5; i++) {
+            x.seen(i % 4, i % 3, 1 + i, i == 4);
+        }
+        x.by(2);
+        x.seed(70);
+        for (int i = 0; i < 2; i++) {
+            x.begin(i, 1, 0);
+            x.stop();
+        }
+        int drawn = x.about(2);
+        c.is("41: NIGHT", x.image(), 7);
+        x.person(5, 5, 5);
+        x.person(6, 4, 4);
+        x.night(3);
+        c.is("10: with 5 SEEN", Check.text(x, "jar 4;"), 3);
+        x.seen(-1, 0, 0, true);
+        x.by(0);
+        x.week(1, 1);
+        x.stair(0, 2);
+        x.stair(3, 3);
+        Check.tape(x, "jar");
+        c.is("42: NIGHT", x.back(), 7);
+        int[] due = {4, 7, drawn, 3, 2, 11, 5, 6, 3};
+        for (int i = 0; i < due.length; i++) {
+            c.is("42: about " + i, x.about(i), due[i]);
+        }
+        for (int i = 0; i < 4; i++) {
+            c.is("42: NONE of " + i, x.about(10 + i), i);
+            c.is("42: TWICE of " + i, x.about(20 + i), 1);
+            c.is("42: LANDING of " + i, x.about(30 + i), 9 - i);
+        }
+        c.is("42: PERSON 4 isn't told", x.about(14), -2);
+        c.is("42: TEXT 3 isn't there", x.by(3), false);
+        c.is("42: nor PLAYED", x.played(3), -2);
+        c.is("42: TEXT 2 is", x.says(0, 0, 0, 1, 3), 3);
+        c.is("42: lines", x.book(-1, 0), 2);
+        x.end(0);
+        c.is("10: the next number", Check.text(x, "jar 5;"), 3);
+        c.is("6: the next number", x.person(8, 1, 1), 4);
+        c.is("43: its own", x.about(14), 8);
+        x.by(3);
+        c.is("23: its own", x.says(4, 0, 0, 1, 3), 5);
     }
 
     private static void imageStays() {

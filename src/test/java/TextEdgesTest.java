@@ -312,6 +312,7 @@ public final class TextEdgesTest {
         fault("jar 1:", 1, 5);
         fault("jar 1?", 1, 5);
         fine("jar if 1=1?2:3end;");
+        fine("jar if 1+1=2*1?2+3:4-5*6 end;");
         fault("jar if1=1?2:3 end;", 0, -1);
         fault("jar who steps;", 1, 8);
         fault("jar whosteps;", 1, 4);
